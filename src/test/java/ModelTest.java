@@ -155,6 +155,25 @@ public final class ModelTest {
         return held(seed);
     }
 
+    // WAYS that are nearly always alike, but by no rule that WEIGHTS can learn, bring weights to their ends.
+    private void weightsAtTheirEnds(int threshold, int end) {
+        int[][] program = {{0, 4, 1, 2, 0}, {1, 2, 1, 3, 0}, {2, 9, 1, 4, 0}, {3, 12, 0, 0, 0}};
+        for (int[] o : program) same("op", real.op(o[0], o[1], o[2], o[3], o[4]), model.op(o[0], o[1], o[2], o[3], o[4]), o);
+        int[] numbers = {0, 1, 1103515245, 12345, threshold};
+        for (int r = 1; r < 5; r++) same("register", real.register(r, numbers[r]), model.register(r, numbers[r]), r, numbers[r]);
+        same("guesser", real.guesser(5, 0, 8, 50), model.guesser(5, 0, 8, 50), 5, 0, 8, 50);
+        int reached = 0;
+        for (int i = 0; i < 20; i++) {
+            same("run", real.run(2000), model.run(2000), 2000);
+            for (int w = 0; w < 9; w++) {
+                same("inside", real.inside(0, 0, w), model.inside(0, 0, w), 0, 0, w);
+                if (real.inside(0, 0, w) == end) reached++;
+            }
+        }
+        Check.that("a weight came to " + end, reached > 0);
+        same("misses", real.misses(0, -1), model.misses(0, -1), 0, -1);
+    }
+
     public static void main(String[] args) {
         int objects = args.length > 0 ? Integer.parseInt(args[0]) : 1200;
         for (int seed = 0; seed < objects; seed++) {
@@ -165,6 +184,8 @@ public final class ModelTest {
         for (int seed = 0; seed < objects / 200; seed++) {
             if (!new ModelTest(-1 - seed, 6, 40, 5).heldLong(-1 - seed)) break;
         }
+        new ModelTest(0, 1, 1, 0).weightsAtTheirEnds(1900000000, 63);
+        new ModelTest(0, 1, 1, 0).weightsAtTheirEnds(-1900000000, -64);
         Check.end("ModelTest");
     }
 }
