@@ -388,6 +388,7 @@ public final class WayGuesses {
         private final int[] branches = new int[MOST_KEPT];
         private final int[] counts = new int[2 * PLACES];
         private final int[] tallies = new int[PLACES << MOST_HISTORY];
+        private final int[] keys = new int[MOST_KEPT];
         private final int[] histories = new int[PLACES];
         private int size;
         private int leastMisses;
@@ -426,7 +427,6 @@ public final class WayGuesses {
 
         // Works out leastMisses and unlike in one pass over THE ROW.
         private void survey(int n, boolean own) {
-            Arrays.fill(tallies, 0, PLACES << n, 0);
             Arrays.fill(histories, 0);
             leastMisses = 0;
             unlike = 0;
@@ -435,9 +435,12 @@ public final class WayGuesses {
                 int way = wayOf(i);
                 // One HISTORY of all is that of a single PLACE that every BRANCH shares.
                 int holder = own ? place : 0;
-                tally((place << n) | histories[holder], way);
+                keys[i] = (place << n) | histories[holder];
+                tally(keys[i], way);
                 histories[holder] = ((histories[holder] << 1) | way) & lowBits(n);
             }
+            // Only what was touched is cleared: THE ROW is mostly far shorter than the table.
+            for (int i = 0; i < size; i++) tallies[keys[i]] = 0;
         }
 
         private void tally(int key, int way) {
@@ -603,6 +606,7 @@ public final class WayGuesses {
             return machine.numbers[place] <= place ? 1 : 0;
         }
 
+        // It holds to its rule, whatever the WAYS are.
         void learn(int place, int way) {
         }
 

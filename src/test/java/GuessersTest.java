@@ -99,7 +99,7 @@ public final class GuessersTest {
         x.due("hint(1, 3, -1)", -1).due("profile(0)", 4).after("empty()").ways(8, "1").due("profile(0)", 1);
         x.due("hint(0, 3, -1)", -1).due("hint(0, 8, -1)", 1).due("profile(0)", 1).after("empty()").due("profile(0)", 0);
         x.due("hint(0, 8, -1)", -1).dueAll(UNKNOWN, "profile(2)", "profile(-1)", "profile(" + MIN + ")", "profile(" + MAX + ")");
-        x.due("asked(0)", 10);
+        x.due("asked(0)", 10).ways(0, "1").due("profile(0)", 1).due("hint(0, 0, -1)", 1);
     }
 
     private static void misses() {
@@ -217,6 +217,7 @@ public final class GuessersTest {
         x.ways(9, "1").ways(5, "1").due("clashes(0)", 3).due("pair(0, 1)", 329).due("back(0, 0)", 2).due("clashes(0)", 1);
         x.due("pair(0, 0)", 197).due("pair(0, 1)", NONE).ways(5, "1").due("clashes(0)", 1).ways(3, "1").due("clashes(0)", 2);
         x.due("pair(0, 1)", NONE).ways(4, "1").due("pair(0, 1)", 196).due("back(0, 0)", 2).due("pair(0, 1)", NONE);
+        x.due("fresh(0)", 2).ways(8, "1").ways(7, "1").due("pair(0, 0)", 456).due("back(0, 0)", 2).due("pair(0, 0)", 197);
     }
 
     private static void refusedChangesNothing() {
