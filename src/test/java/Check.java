@@ -14,7 +14,10 @@ final class Check {
     }
 
     static void that(String what, boolean holds) {
-        due(what, holds ? 1 : 0, 1);
+        looked++;
+        if (holds) return;
+        wrong++;
+        System.out.println("does not hold: " + what);
     }
 
     /** Prints the count and ends the test with exit code 1 if an answer was wrong. */

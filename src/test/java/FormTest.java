@@ -1,5 +1,4 @@
 import java.io.IOException;
-import java.lang.reflect.Array;
 import java.lang.reflect.Constructor;
 import java.lang.reflect.Field;
 import java.lang.reflect.Method;
@@ -7,8 +6,6 @@ import java.lang.reflect.Modifier;
 import java.nio.file.Files;
 import java.nio.file.Path;
 import java.util.ArrayList;
-import java.util.Collections;
-import java.util.IdentityHashMap;
 import java.util.List;
 import java.util.Set;
 import java.util.TreeSet;
@@ -28,6 +25,7 @@ public final class FormTest {
         members();
         nested();
         text();
+        interfaceOfTheDocument();
         room();
         Check.end("FormTest");
     }
@@ -117,42 +115,50 @@ public final class FormTest {
         }
     }
 
+    /** The document's own lines of the face stand in the class, each group behind the line that is ahead of it. */
+    private static void interfaceOfTheDocument() throws IOException {
+        String code = Files.readString(Path.of("src/main/java/WayGuesses.java"));
+        List<String> lines = Files.readAllLines(Path.of("../shared/DOC.md"));
+        int groups = 0;
+        for (String line : lines) {
+            String text = line.trim();
+            if (text.startsWith("public ") && text.endsWith(";")) {
+                String start = text.substring(0, text.length() - 1);
+                Check.that("the class has: " + text, code.contains(text) || code.contains("    " + start + " {"));
+            }
+            if (!text.startsWith("Ahead of the calls ")) continue;
+            groups++;
+            aheadOfItsCalls(code, text);
+        }
+        Check.due("groups of calls", groups, 3);
+    }
+
+    private static void aheadOfItsCalls(String code, String sentence) {
+        String[] halves = sentence.split(" the interface says: ");
+        String head = "// " + halves[1].substring(0, halves[1].length() - 1);
+        int from = code.indexOf(head), to = code.indexOf("// ----", from + 1);
+        Check.that("the class has: " + head, from >= 0 && to > from);
+        for (String quoted : halves[0].split("`")) {
+            if (!quoted.matches("[a-z]+")) continue;
+            int at = code.indexOf("public int " + quoted + "(");
+            Check.that(quoted + "() stands behind " + head, from < at && at < to);
+        }
+    }
+
     /** Calls make objects only for new GUESSERS and new places of keep(), so what is kept is all that was made. */
-    private static void room() throws IllegalAccessException {
+    private static void room() {
         WayGuesses x = new WayGuesses();
         for (int g = 0; g < 8; g++) x.guesser(g % 2 == 0 ? 2 : 4, g % 2 == 0 ? 8 : 7, 4, 0);
         for (int g = 0; g < 8; g++) x.keep(g, 0);
         for (int g = 0; g < 8; g++) x.keep(g, 1);
-        long first = elements(x);
+        long first = Snapshot.elementsOf(x);
         for (int i = 0; i < 40; i++) {
             x.branch(i, 1);
             for (int g = 0; g < 8; g++) x.keep(g, i % 2);
             x.best(8, true);
             x.seen(8, false);
         }
-        Check.due("elements after more calls", elements(x), first);
+        Check.due("elements after more calls", Snapshot.elementsOf(x), first);
         Check.that("the room holds " + first + " elements", first < MOST_ELEMENTS);
-    }
-
-    private static long elements(Object root) throws IllegalAccessException {
-        Set<Object> met = Collections.newSetFromMap(new IdentityHashMap<>());
-        List<Object> open = new ArrayList<>(List.of(root));
-        long sum = 0;
-        while (!open.isEmpty()) {
-            Object o = open.remove(open.size() - 1);
-            if (!met.add(o)) continue;
-            if (o.getClass().isArray()) sum += Array.getLength(o);
-            if (o instanceof Object[] many) for (Object one : many) if (one != null) open.add(one);
-            if (o.getClass().isArray()) continue;
-            for (Class<?> c = o.getClass(); c != Object.class; c = c.getSuperclass()) {
-                for (Field f : c.getDeclaredFields()) {
-                    if (Modifier.isStatic(f.getModifiers())) continue;
-                    sum++;
-                    f.setAccessible(true);
-                    if (!f.getType().isPrimitive() && f.get(o) != null) open.add(f.get(o));
-                }
-            }
-        }
-        return sum;
     }
 }
