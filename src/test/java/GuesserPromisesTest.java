@@ -341,6 +341,9 @@ public final class GuesserPromisesTest {
             .see("keep(0, 0) = 1").ways(9, "1").see("clashes(0) = 2; pair(0, 1) = 329; back(0, 0) = 2; clashes(0) = 1; pair(0, 0) = 197",
             "pair(0, 1) = NONE")
             .ways(5, "1").see("clashes(0) = 1").ways(4, "1").see("clashes(0) = 2; pair(0, 1) = 261"));
+        p.holds(words, "PAIRS, behind which there were others", x -> x.see("guesser(1, 0, 0, 0)").ways(3, "1").ways(5, "1")
+            .see("keep(0, 0) = 1; fresh(0) = 2")
+            .ways(8, "1").ways(7, "1").see("pair(0, 0) = 456; back(0, 0) = 2; pair(0, 0) = 197; pair(0, 1) = NONE"));
         unknownGuesser(p, "UNKNOWN.", "UNKNOWN", "keep(G, 0); keep(G, 1); keep(G, 2)");
         p.holds("UNKNOWN.", "no such place k", x -> x.busy().refused("UNKNOWN", "keep(0, -1); keep(0, 2); keep(7, MIN); keep(7, MAX)")
             .see("back(0, 0) = UNKNOWN; back(0, 1) = UNKNOWN"));

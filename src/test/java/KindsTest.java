@@ -283,6 +283,12 @@ public final class KindsTest {
         t.holds(when, "right, SUM is one above c", x -> x.see("guesser(5, 0, 1, 3)").ways(0, "1111").see("inside(0, 0, 0) = 3; inside(0, 0, 1) = 1"));
         t.holds(when, "right, SUM is -c", x -> x.see("guesser(5, 0, 1, 2)").ways(0, "00").see("inside(0, 0, 0) = -2; inside(0, 0, 1) = 2"));
         t.holds(when, "right, SUM is one below -c", x -> x.see("guesser(5, 0, 1, 1)").ways(0, "00").see("inside(0, 0, 0) = -1; inside(0, 0, 1) = 1"));
+        t.holds(when, "wrong, SUM is -1", x -> x.see("guesser(5, 1, 2, 0)").ways(1, "0").ways(0, "1").ways(1, "1")
+            .see("inside(0, 1, 0) = 0; inside(0, 1, 1) = 2; inside(0, 1, 2) = 0"));
+        t.holds(when, "right, SUM is -1, c 0", x -> x.see("guesser(5, 1, 2, 0)").ways(1, "0").ways(0, "1").ways(1, "0")
+            .see("inside(0, 1, 0) = -1; inside(0, 1, 1) = 1; inside(0, 1, 2) = 1"));
+        t.holds(when, "right, SUM is -1, c 1", x -> x.see("guesser(5, 1, 2, 1)").ways(1, "0").ways(0, "1").ways(1, "0")
+            .see("inside(0, 1, 0) = -2; inside(0, 1, 1) = 0; inside(0, 1, 2) = 2"));
         t.holds(when, "c 0 and SUM 0", x -> x.see("guesser(5, 0, 1, 0)").ways(0, "1").see("inside(0, 0, 0) = 1; inside(0, 0, 1) = -1"));
         t.holds(when, "c 50", x -> x.see("guesser(5, 0, 1, 50)").ways(0, "1".repeat(26)).see("inside(0, 0, 0) = 26; inside(0, 0, 1) = 24")
             .ways(0, "1").see("inside(0, 0, 0) = 27").ways(0, "1")

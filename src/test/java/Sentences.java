@@ -4,6 +4,8 @@ final class Sentences {
         void on(Bench x);
     }
 
+    private static final boolean TELL_NAMES = Boolean.getBoolean("names");
+
     private final String piece;
     private final String text;
     private final boolean[] quoted;
@@ -16,8 +18,10 @@ final class Sentences {
 
     /** One test on a new object: which words of the document it tests, at which edge, and its calls. */
     Sentences holds(String words, String edge, Run run) {
+        String name = piece + " '" + words + "', " + edge;
+        if (TELL_NAMES) System.out.println(name);
         quote(words);
-        run.on(new Bench(piece + " '" + words + "', " + edge));
+        run.on(new Bench(name));
         return this;
     }
 
