@@ -9,6 +9,8 @@ import java.util.ArrayList;
 import java.util.List;
 import java.util.Set;
 import java.util.TreeSet;
+import java.util.regex.Matcher;
+import java.util.regex.Pattern;
 
 /** The public face, and the rules of LANGUAGE.md that can be read off the class and its text. */
 public final class FormTest {
@@ -17,6 +19,8 @@ public final class FormTest {
         "inside iii", "fresh i", "again i", "keep ii", "back ii", "best ib", "seen ib", "often ii", "ticks ii", "told i", "empty "};
     private static final String[] FORBIDDEN = {"catch", "throw", "try", "finally", "synchronized", "assert", "->", "::", "Exact(",
         "float", "double", "Random", "System.out", "nanoTime", "currentTime", "toString", "hashCode", "equals(", "protected"};
+    private static final Pattern LIBRARY = Pattern.compile("\\b(Arrays|System|Math|Integer|Long|String|List)\\.\\w+");
+    private static final Set<String> LIBRARY_USED = Set.of("Arrays.fill", "System.arraycopy", "Math.min", "Math.max", "Math.abs");
     private static final int MOST_ELEMENTS = 100_000;
 
     public static void main(String[] args) throws Exception {
@@ -102,6 +106,9 @@ public final class FormTest {
             String line = lines.get(i);
             String code = line.contains("//") ? line.substring(0, line.indexOf("//")) : line;
             for (String word : FORBIDDEN) Check.that("line " + (i + 1) + " has no " + word, !code.contains(word));
+            for (Matcher m = LIBRARY.matcher(code); m.find();) {
+                Check.that("line " + (i + 1) + ": rule 4 has " + m.group(), code.startsWith("import") || LIBRARY_USED.contains(m.group()));
+            }
             if (code.startsWith("import")) Check.that(code, code.equals("import java.util.Arrays;"));
             String indent = code.substring(0, code.length() - code.stripLeading().length());
             if (code.endsWith(") {") && indent.length() <= 8 && !code.contains("class ") && (start < 0 || indent.length() <= depth.length())) {
