@@ -21,7 +21,7 @@ public final class ReadmeTest {
         ops();
         kinds();
         kindsWithoutClashes();
-        readings();
+        sentences();
         Check.end("ReadmeTest");
     }
 
@@ -165,7 +165,7 @@ public final class ReadmeTest {
         x.refused("-1001", "inside(0, 0, 0)").refused("-1000", "inside(8, 0, 0); inside(1, 1, 0); inside(1, 0, 4)");
     }
 
-    private static void readings() {
+    private static void sentences() {
         new Bench("Where the document leaves room: keep, back").busy()
             .refused("UNKNOWN", "keep(1, -1); keep(1, 2); back(1, -1); back(1, 2); back(2, 0)");
         new Bench("Where the document leaves room: inside").busy()
@@ -175,6 +175,10 @@ public final class ReadmeTest {
             .see("op(0, 11, 1, 0, 1); run(1) = 1; told(0) = 1; at(0, 1) = 0; stand(0); register(1, 1); run(1) = 1; told(0) = 1; at(1, 1) = 1");
         new Bench("Where the document leaves room: a chooser's counter").see("guesser(0, 0, 0, 0); guesser(7, 0, 0, 0)")
             .ways(1, "1").ways(2, "1").see("clashes(1) = 1; inside(1, 0, 0) = 1");
+        new Bench("Use, 2: fresh forgets all but its hints and what is kept").busy().see("asked(1) = 9; fresh(1) = 9; asked(1) = 0")
+            .see("hint(1, 3, 1) = 1; back(1, 0) = 7; asked(1) = 7");
+        new Bench("Use, 2: kind 0, 2: v not above the place").see("guesser(0, 2, 0, 0); op(9, 0, 0, 0, 9); guess(0, 9) = 1")
+            .see("op(9, 0, 0, 0, 10); guess(0, 9) = 0; op(9, 1, 0, 0, MIN); guess(0, 9) = 1");
         new Bench("Where the document leaves room: fresh").see("guesser(1, 0, 0, 0)").ways(1, "1").see("fresh(0) = 1")
             .ways(2, "1").see("clashes(0) = 0").ways(3, "1").see("clashes(0) = 1");
     }
